@@ -9,8 +9,14 @@ final class Check {
     static final Class<? extends RuntimeException> STATE = IllegalStateException.class;
 
     private static int wrong = 0;
+    private static String sentence = "";
 
     private Check() {
+    }
+
+    /** Names the sentence of the document that the checks from here on are about. */
+    static void sentence(String text) {
+        sentence = text;
     }
 
     static void same(String what, long got, long due) {
@@ -33,7 +39,7 @@ final class Check {
 
     static void complain(String text) {
         wrong++;
-        System.out.println(text);
+        System.out.println(sentence.isEmpty() ? text : text + " [" + sentence + "]");
     }
 
     static void end(String test) {
@@ -43,10 +49,16 @@ final class Check {
         }
     }
 
-    /** A house whose lot 0, of seller 0, is sold to buyer 0 at its reserve. */
-    static DroitLine sold(int reserve, int artist) {
+    /** A house with an OPEN lot 0 of seller 0. */
+    static DroitLine open(int reserve, int artist) {
         DroitLine house = new DroitLine();
         house.lot(0, reserve, artist);
+        return house;
+    }
+
+    /** A house whose lot 0, of seller 0, is sold to buyer 0 at its reserve. */
+    static DroitLine sold(int reserve, int artist) {
+        DroitLine house = open(reserve, artist);
         house.bid(0, 0, 1000000);
         house.hammer(0);
         return house;
@@ -55,6 +67,27 @@ final class Check {
     static DroitLine paid(int reserve, int artist) {
         DroitLine house = sold(reserve, artist);
         house.pay(0);
+        return house;
+    }
+
+    /** A house with lot 0 of reserve 1000 in the state, with a bid of 900 or above it if it is not OPEN. */
+    static DroitLine inState(int state) {
+        if (state == DroitLine.OPEN) {
+            return open(1000, DroitLine.LIVES);
+        }
+        if (state == DroitLine.UNSOLD) {
+            DroitLine house = open(1000, DroitLine.LIVES);
+            house.bid(0, 0, 900);
+            house.hammer(0);
+            return house;
+        }
+        DroitLine house = sold(1000, DroitLine.LIVES);
+        if (state != DroitLine.SOLD) {
+            house.pay(0);
+        }
+        if (state == DroitLine.SETTLED) {
+            house.settle(0);
+        }
         return house;
     }
 
