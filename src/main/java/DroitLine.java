@@ -316,7 +316,7 @@ public final class DroitLine {
     private static int calledAmount(int amount) {
         // Each band of steps begins at a multiple of its step, so this never falls out of the band.
         int step = stepOf(amount);
-        return amount / step * step;
+        return step > 0 ? amount / step * step : amount;
     }
 
     private static int priceFor(int reserve, int highest, int highestOther) {
@@ -401,7 +401,7 @@ public final class DroitLine {
             while (place < count && buyerAt(place) != buyer) {
                 place++;
             }
-            if (place >= amounts.length) {
+            if (place >= buyers.length || place >= amounts.length) {
                 return;
             }
             buyers[place] = buyer;
